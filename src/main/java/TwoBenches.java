@@ -474,6 +474,10 @@ public final class TwoBenches {
             return benches[a] != NONE && benches[a] == benches[b];
         }
 
+        boolean areTwins(int a, int b) {
+            return begins[a] == begins[b] && ends[a] == ends[b] && benches[a] == benches[b];
+        }
+
         int countWaits() {
             int count = 0;
             for (int a = 0; a < jobs; a++) {
@@ -567,6 +571,10 @@ public final class TwoBenches {
 
         boolean areApart(int a, int b) {
             return a != b && !holds(behind[a], b) && !holds(behind[b], a);
+        }
+
+        boolean areTwins(int a, int b) {
+            return behind[a] == behind[b] && followers[a] == followers[b];
         }
 
         private void findBehind() {
@@ -753,8 +761,9 @@ public final class TwoBenches {
         int length = 0;
         private final Shop shop;
         private final Order order;
-        private final int[] blockJobs = new int[MOST_BLOCKS];
+        // What must be done ahead of a block, and that together with the block itself.
         private final int[] blockNeeds = new int[MOST_BLOCKS];
+        private final int[] blockSums = new int[MOST_BLOCKS];
         private final int[] blockBegins = new int[MOST_BLOCKS];
         private final int[] blockEnds = new int[MOST_BLOCKS];
         private final int[] blockCodes = new int[MOST_BLOCKS];
@@ -793,36 +802,50 @@ public final class TwoBenches {
         private void listBlocks() {
             blocks = 0;
             for (int a = 0; a < shop.jobs; a++) {
+                int needs = order.behind[a] | lesserTwins(a);
                 for (int b = a + 1; b < shop.jobs; b++) {
                     if (order.areApart(a, b) && !shop.ownedAlike(a, b)) {
-                        addBlock(a, b, bit(a) | bit(b), order.behind[a] | order.behind[b]);
+                        addBlock(a, b, bit(a) | bit(b), needs | order.behind[b] | lesserTwins(b));
                     }
                 }
-                addBlock(a, NOBODY, bit(a), order.behind[a]);
+                addBlock(a, NOBODY, bit(a), needs);
             }
         }
 
-        private void addBlock(int a, int b, int jobs, int needs) {
+        /**
+         * The JOBS of lesser numbers that could change places with a in every DAY. THE KEPT DAY has none
+         * of them behind a (to change places would make the first CODE that differs less),
+         * and without the days that have one far fewer sets are left to look at.
+         */
+        private int lesserTwins(int a) {
+            int twins = 0;
+            for (int b = 0; b < a; b++) {
+                if (order.areTwins(a, b) && shop.areTwins(a, b)) {
+                    twins |= bit(b);
+                }
+            }
+            return twins;
+        }
+
+        private void addBlock(int a, int b, int block, int needs) {
             int begin = Math.max(shop.begins[a], shop.begins[b]);
             int end = Math.min(shop.ends[a], shop.ends[b]);
             if (begin > end || blocks >= MOST_BLOCKS) {
                 return;
             }
-            blockJobs[blocks] = jobs;
-            blockNeeds[blocks] = needs;
+            blockNeeds[blocks] = needs & ~block;
+            blockSums[blocks] = needs | block;
             blockBegins[blocks] = begin;
             blockEnds[blocks] = end;
             blockCodes[blocks] = CODE_BASE * a + b;
             blocks++;
         }
 
-        private boolean mayFollow(int block, int done) {
-            return (blockJobs[block] & done) == 0 && (blockNeeds[block] & ~done) == 0;
-        }
-
         private void findSoonest() {
             int all = shop.all();
-            Arrays.fill(soonest, NEVER);
+            for (int set = 1; set <= all; set++) {
+                soonest[set] = NEVER;
+            }
             soonest[0] = 0;
             for (int done = 0; done < all; done++) {
                 if (soonest[done] < NEVER) {
@@ -833,9 +856,9 @@ public final class TwoBenches {
 
         private void goOnFrom(int done) {
             for (int block = 0; block < blocks; block++) {
-                if (mayFollow(block, done)) {
+                if ((done & blockSums[block]) == blockNeeds[block]) {
                     int hour = Math.max(soonest[done] + 1, blockBegins[block]);
-                    int then = done | blockJobs[block];
+                    int then = done | blockSums[block];
                     if (hour <= blockEnds[block] && hour < soonest[then]) {
                         soonest[then] = hour;
                     }
@@ -854,8 +877,8 @@ public final class TwoBenches {
         private int latestFor(int done) {
             int most = -1;
             for (int block = 0; block < blocks; block++) {
-                if (mayFollow(block, done)) {
-                    int hour = Math.min(latest[done | blockJobs[block]], blockEnds[block]);
+                if ((done & blockSums[block]) == blockNeeds[block]) {
+                    int hour = Math.min(latest[done | blockSums[block]], blockEnds[block]);
                     if (hour >= blockBegins[block]) {
                         most = Math.max(most, hour - 1);
                     }
@@ -875,8 +898,9 @@ public final class TwoBenches {
 
         private int leastCode(int done, int hour) {
             for (int block = 0; block < blocks; block++) {
-                if (mayFollow(block, done) && hour >= blockBegins[block] && hour <= blockEnds[block]
-                        && hour <= latest[done | blockJobs[block]]) {
+                if ((done & blockSums[block]) == blockNeeds[block]
+                        && hour >= blockBegins[block] && hour <= blockEnds[block]
+                        && hour <= latest[done | blockSums[block]]) {
                     return blockCodes[block];
                 }
             }

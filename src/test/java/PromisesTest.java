@@ -360,6 +360,14 @@ public final class PromisesTest {
         x.after(3, 0);
         due.is("after", x.after(0, 9), RING);
         ringIs("the lesser at the first place", x, 0, 9, 5, 3);
+        TwoBenches z = withJobs(6);
+        z.after(5, 1);
+        z.after(1, 2);
+        z.after(2, 0);
+        z.after(5, 4);
+        z.after(4, 0);
+        due.is("after", z.after(0, 5), RING);
+        ringIs("the shortest, though of greater numbers", z, 0, 5, 4);
         TwoBenches y = withJobs(10);
         for (int a = 1; a < 10; a++) {
             y.after(a, a - 1);
