@@ -631,6 +631,7 @@ public final class TwoBenches {
 
     /** The LABELS and THE DAY by LABELS. */
     private static final class LabelDay {
+        private static final int ABOVE_ALL_ROWS = 1 << (MOST_JOBS + 1);
         final int[] labels = new int[MOST_JOBS];
         final int[] hours = new int[MOST_JOBS];
         final int[] firsts = new int[MOST_JOBS + 1];
@@ -695,7 +696,7 @@ public final class TwoBenches {
 
         private int firstByRow(int labelled) {
             int first = 0;
-            int leastRow = Integer.MAX_VALUE;
+            int leastRow = ABOVE_ALL_ROWS;
             for (int a = 0; a < shop.jobs; a++) {
                 boolean mayHave = !holds(labelled, a) && (order.nexts[a] & ~labelled) == 0;
                 if (mayHave && rows[a] < leastRow) {

@@ -1,13 +1,19 @@
 /** Compares answers with those that are due, and tells those that are not. */
 final class Due {
+    private String sentence = "";
     private int asked = 0;
     private int wrong = 0;
+
+    /** What is asked from now on is asked for a sentence of the document, which stands ahead of what is wrong. */
+    void beginSentence(String text) {
+        sentence = text + " | ";
+    }
 
     void is(String call, long got, long want) {
         asked++;
         if (got != want) {
             wrong++;
-            System.out.println(call + " answered " + got + ", due is " + want);
+            System.out.println(sentence + call + " answered " + got + ", due is " + want);
         }
     }
 
@@ -15,8 +21,12 @@ final class Due {
         asked++;
         if (!so) {
             wrong++;
-            System.out.println("not so: " + what);
+            System.out.println(sentence + "not so: " + what);
         }
+    }
+
+    int asked() {
+        return asked;
     }
 
     boolean failed() {

@@ -20,7 +20,7 @@ public final class LanguageTest {
     private static final Set<String> CONSTANTS = Set.of("BAD", "FULL", "NONE", "RING");
     private static final Pattern REFUSED = Pattern.compile(
             "\\b(throw|throws|try|catch|finally|synchronized|assert|native|transient|volatile|var|default\\s*->|"
-            + "Exact|Thread|System\\.(?!arraycopy)|Objects|Stream|Random|hashCode|toString)\\b|->|::");
+            + "\\w*Exact|MAX_VALUE|MIN_VALUE|Thread|System\\.(?!arraycopy)|Objects|Stream|Random|hashCode|toString)\\b|->|::");
 
     private static final Due due = new Due();
 

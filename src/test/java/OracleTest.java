@@ -2,7 +2,8 @@ import java.util.Random;
 
 /** Runs of drawn calls, the same each time; each answer is compared with the Oracle's. */
 public final class OracleTest {
-    private static final int RUNS = 400, CALLS = 120, WIDE_RUNS = 40, RING_RUNS = 60, KEPT_RUNS = 60;
+    private static final int RUNS = 400, CALLS = 120, WIDE_RUNS = 40, RING_RUNS = 120, KEPT_RUNS = 60;
+    private static final int MOST_CALLS = 512, CALLS_OF_ASK_ALL = 320;
     private static final int[] ODD = {Integer.MIN_VALUE, -2, -1, 41, 63, 64, 17, 1000, Integer.MAX_VALUE};
 
     private final Due due;
@@ -10,6 +11,7 @@ public final class OracleTest {
     private final int run;
     private final int mostJobs;
     private final int mostBound;
+    private int calls = 0;
     private final TwoBenches x = new TwoBenches();
     private final Oracle y = new Oracle();
 
@@ -44,14 +46,14 @@ public final class OracleTest {
         for (int a = 0; a < n; a++) {
             is("job", x.job(0, 0, 0), y.job(0, 0, 0));
         }
-        for (int k = 0; k < 60; k++) {
+        while (calls < MOST_CALLS - CALLS_OF_ASK_ALL - 14) {
             int a = random.nextInt(n);
             int b = random.nextInt(n);
             if (random.nextInt(8) == 0) {
                 is("free " + a + " " + b, x.free(a, b), y.free(a, b));
             }
             is("after " + a + " " + b, x.after(a, b), y.after(a, b));
-            for (int i = 0; i <= 10; i++) {
+            for (int i = 0; i == 0 || i <= 10 && y.ring(i - 1) >= 0; i++) {
                 is("ring " + i, x.ring(i), y.ring(i));
             }
         }
@@ -110,6 +112,10 @@ public final class OracleTest {
     }
 
     private void is(String call, long got, long want) {
+        calls++;
+        if (calls > MOST_CALLS) {
+            due.holds("run " + run + ": " + call + " is call 512 at most", false);
+        }
         due.is("run " + run + ": " + call, got, want);
     }
 

@@ -519,14 +519,14 @@ public final class PromisesTest {
         for (int a = 0; a < 7; a++) {
             due.is("label " + a, x.about(a, 9), labels[a]);
         }
-        // A wait that is told, but no STEP, gives no LABEL: 4 over 3 to 0.
-        TwoBenches y = withJobs(6);
-        y.after(0, 3);
-        y.after(3, 4);
-        y.after(0, 4);
-        y.after(2, 5);
-        int[] without = {1, 2, 3, 4, 6, 5};
-        for (int a = 0; a < 6; a++) {
+        // A wait that is told, but no STEP, adds nothing to a row: 3 is behind 0 over 2 alone.
+        TwoBenches y = withJobs(4);
+        y.after(3, 2);
+        y.after(2, 0);
+        y.after(2, 1);
+        y.after(3, 0);
+        int[] without = {3, 4, 2, 1};
+        for (int a = 0; a < 4; a++) {
             due.is("label " + a + " by STEPS", y.about(a, 9), without[a]);
         }
     }
